@@ -7,6 +7,7 @@ final class HistoryTest {
         eachKindOfEdit();
         noEdits();
         savedIsRestored();
+        savedIsKeptApart();
         clearedWithTheInstance();
         editsAfterUndo();
         Check.end("HistoryTest");
@@ -113,6 +114,28 @@ final class HistoryTest {
         Check.due("undo()", x.undo(), 0);
         Check.due("saved as before the edit: marginOverSaved()", x.marginOverSaved(), 0);
         Check.due("saved as before the edit: swapSaved()", x.swapSaved(), 0);
+    }
+
+    private static void savedIsKeptApart() {
+        PopularMatchings x = fresh();
+        x.assign(0, 2);
+        x.save();
+        x.assign(0, 1);
+        x.assign(0, 0);
+        Check.due("undo()", x.undo(), 2);
+        Check.due("after assign: marginOverSaved()", x.marginOverSaved(), 1);
+        x.adoptSerial(0);
+        Check.due("undo()", x.undo(), 2);
+        Check.due("after adoptSerial: marginOverSaved()", x.marginOverSaved(), 1);
+        for (int edit = 0; edit < 7; edit++) {
+            x.adoptSerial(edit % 2);
+        }
+        x.save();
+        for (int left = 4; left >= 0; left--) {
+            Check.due("undo()", x.undo(), left);
+        }
+        Check.due("after many edits: swapSaved()", x.swapSaved(), 1);
+        Check.posts("after many edits", x, 2, -1, -1, -1);
     }
 
     private static void clearedWithTheInstance() {

@@ -140,6 +140,10 @@ final class VotesTest {
         Check.posts("adoptChallenger", x, 1, 2, 0);
         Check.due("an edit: undo()", x.undo(), 2);
         Check.posts("undo", x, 2, 0, 1);
+        x.adoptSerial(0);
+        x.assign(2, -1);
+        Check.due("of another matching: adoptChallenger()", x.adoptChallenger(), 1);
+        Check.posts("of another matching", x, 0, 1, 2);
         PopularMatchings y = Check.withReset(2, 1, "0", "0");
         y.assign(1, 0);
         Check.due("popular: adoptChallenger()", y.adoptChallenger(), 0);
