@@ -14,6 +14,14 @@ final class Check {
         }
     }
 
+    static void same(String what, String answers, String want) {
+        checked++;
+        if (!answers.equals(want)) {
+            wrong++;
+            System.out.println(what + "\n  answered " + answers + "\n  due is   " + want);
+        }
+    }
+
     static void posts(String when, PopularMatchings x, int... want) {
         for (int applicant = 0; applicant < want.length; applicant++) {
             due(when + ": postOf(" + applicant + ")", x.postOf(applicant), want[applicant]);
