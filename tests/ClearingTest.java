@@ -38,6 +38,7 @@ final class ClearingTest {
         whatClearsNothing();
         resetStartsAnew();
         resetForgetsWhatLayBeyond();
+        resetForgetsTheLargerMatchings();
         capacityChangeKeepsTheRest();
         listChangeKeepsTheRest();
         Check.end("ClearingTest");
@@ -180,6 +181,32 @@ final class ClearingTest {
         }
         for (int post = 0; post < 5; post++) {
             Check.due("grown again: setCapacity(" + post + ", 1)", x.setCapacity(post, 1), 1);
+        }
+    }
+
+    /** The same, of the matchings that are made with the smaller numbers: nobody beyond N has a post. */
+    private static void resetForgetsTheLargerMatchings() {
+        Twins.Call[] makers = {x -> x.adoptChallenger(), x -> x.adoptPopular(0), x -> x.adoptSerial(0), x -> x.swapSaved(),
+            x -> x.assign(0, 0)};
+        for (int before = 0; before < makers.length; before++) {
+            for (int after = 0; after < makers.length; after++) {
+                PopularMatchings x = Check.withReset(6, 5, "0", "0", "1", "2", "3", "4");
+                x.setCapacity(0, 2);
+                x.adoptSerial(0);
+                x.save();
+                makers[before].on(x);
+                x.reset(2, 2);
+                Check.listing(x, "0");
+                makers[after].on(x);
+                String when = "greater " + before + ", smaller " + after;
+                int want = after == 3 ? 0 : 1;
+                Check.due(when + ": size()", x.size(), want);
+                Check.due(when + ": save()", x.save(), want);
+                Check.due(when + ": swapSaved()", x.swapSaved(), want);
+                Check.due(when + ": greatestPopularSize()", x.greatestPopularSize(), 1);
+                Check.due(when + ": adoptPopular(0)", x.adoptPopular(0), 1);
+                Check.due(when + ": adoptSerial(1)", x.adoptSerial(1), 1);
+            }
         }
     }
 

@@ -22,6 +22,7 @@ final class EditsTest {
         questionsAreNoEdits();
         undoIsNotUndone();
         savedBeforeEachEdit();
+        savedBeforeEachOfManyEdits();
         swapOfUnlikeMatchings();
         Check.end("EditsTest");
     }
@@ -254,6 +255,24 @@ final class EditsTest {
             Check.due(undos + " undone: marginOverSaved()", x.marginOverSaved(), 0);
             x.swapSaved();
             Check.due(undos + " undone, saved: postOf(0)", x.postOf(0), want);
+        }
+    }
+
+    /** The same when the oldest edits have been dropped. */
+    private static void savedBeforeEachOfManyEdits() {
+        int[] held = {2, 1, 2, 0, 1, 0, 2, 1, 0, 1, 2};
+        for (int undos = 0; undos <= 5; undos++) {
+            PopularMatchings x = fresh();
+            for (int post : held) {
+                x.assign(0, post);
+                x.save();
+            }
+            for (int undo = 1; undo <= undos; undo++) {
+                Check.due("undo()", x.undo(), 5 - undo);
+            }
+            Check.due(undos + " of eleven undone: postOf(0)", x.postOf(0), held[10 - undos]);
+            x.swapSaved();
+            Check.due(undos + " of eleven undone, saved: postOf(0)", x.postOf(0), held[10 - undos]);
         }
     }
 

@@ -20,7 +20,9 @@ final class VotesAndOrderTest {
         theLeastOfManyChallengers();
         challengersOfThePresentMatching();
         theMarginBeforeTheChallenger();
+        aChallengerMayHaveLosers();
         popularMatchingsInTheirOrder();
+        aSecondPostMayBeTheLower();
         popularMatchingsAreOfTheInstance();
         noPopularMatching();
         greatestOfUnlikeSizes();
@@ -242,6 +244,20 @@ final class VotesAndOrderTest {
         }
     }
 
+    /** Promise 18: "Makes the best challenger the present matching", though some vote against it. */
+    private static void aChallengerMayHaveLosers() {
+        PopularMatchings x = Check.withReset(6, 5, "01", "01", "01", "23", "23", "4");
+        x.assign(0, 0);
+        x.assign(1, 1);
+        x.assign(3, 2);
+        x.assign(5, 4);
+        Check.due("three gain, one loses: unpopularityMargin()", x.unpopularityMargin(), 2);
+        Check.due("three gain, one loses: adoptChallenger()", x.adoptChallenger(), 2);
+        Check.posts("three gain, one loses", x, -1, 0, 1, 2, 3, 4);
+        Check.due("and again: adoptChallenger()", x.adoptChallenger(), 1);
+        Check.posts("and again", x, 1, -1, 0, 2, 3, 4);
+    }
+
     /** Promise 21: "0 for the least one, 1 for the next one, and so on". */
     private static void popularMatchingsInTheirOrder() {
         PopularMatchings x = Check.withReset(6, 5, RIVALS);
@@ -264,6 +280,23 @@ final class VotesAndOrderTest {
             }
         }
         Check.due("two places: popularCount()", x.popularCount(), index);
+    }
+
+    /** The same: the order is that of post numbers, not of preferences. */
+    private static void aSecondPostMayBeTheLower() {
+        PopularMatchings x = Check.withReset(2, 5, "40", "41");
+        Check.due("popularCount()", x.popularCount(), 2);
+        x.adoptPopular(0);
+        Check.posts("the first one's second post", x, 0, 4);
+        x.adoptPopular(1);
+        Check.posts("the first one's first post", x, 4, 1);
+        PopularMatchings y = Check.withReset(4, 5, "1", "10", "32", "34");
+        int[][] want = {{1, 0, 2, 3}, {1, 0, 3, 4}, {-1, 1, 2, 3}, {-1, 1, 3, 4}};
+        Check.due("popularCount()", y.popularCount(), 4);
+        for (int index = 0; index < 4; index++) {
+            y.adoptPopular(index);
+            Check.posts("adoptPopular(" + index + ")", y, want[index]);
+        }
     }
 
     /** Promises 19 to 21 speak of the instance, so the present and the saved matching do not matter. */
